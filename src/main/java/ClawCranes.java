@@ -20,7 +20,6 @@ public final class ClawCranes {
     private static final int MOST_COINS = 99;
     private static final int MOST_CREDIT = 999;
     private static final int MOST_AIM = 4;
-    private static final int COST_PLAYS = 300;
     private static final int BOOK_ROWS = 10;
     private static final int BOOK_FIELDS = 4;
     private static final int PAD_LENGTH = 80;
@@ -34,7 +33,6 @@ public final class ClawCranes {
     private static final int TOLD_NOTHING = 0, TOLD_SLIP = 1, TOLD_WIN = 2, TOLD_FILLING = 3;
 
     private final Crane crane = new Crane();
-    private final Crane trial = new Crane();
     private final Crane[] slots = new Crane[SLOTS];
     private final boolean[] saved = new boolean[SLOTS];
     private final History history = new History();
@@ -180,13 +178,7 @@ public final class ClawCranes {
         if (!isColumn(column)) {
             return NO_SUCH;
         }
-        int prize = crane.pit.top(column);
-        if (prize < 0) {
-            return NOT_POSSIBLE;
-        }
-        trial.copyFrom(crane);
-        int plays = trial.playsToWin(column, prize);
-        return plays < 0 ? NONE : plays * crane.settings[COIN];
+        return crane.pit.top(column) < 0 ? NOT_POSSIBLE : crane.coinsToWin(column);
     }
 
     // ---- texts
@@ -482,18 +474,20 @@ public final class ClawCranes {
             return prize < 0 || prize >= MOST_PRIZES ? 0 : prizes.value[prize];
         }
 
-        /** Plays until a prize is won; this crane is not the same after it, so it is called on a copy. */
-        private int playsToWin(int column, int prize) {
-            for (int played = 1; played <= COST_PLAYS; played++) {
-                pull(column, 0);
-                if (prizes.place[prize] == WON) {
-                    return played;
-                }
-                if (!pit.holds(column, prize)) {
-                    return NONE;
-                }
+        /**
+         * Only the grip changes while a column is played at: filling up takes empty columns first, and while
+         * none is empty none is lacking, so nothing comes on top; and the neighbours only grow, so that a ball
+         * that stays now stays for good. The full grip is never as far away as the plays that are asked for.
+         */
+        private int coinsToWin(int column) {
+            int outcome = outcome(column, 0);
+            if (outcome >= WINS) {
+                return settings[COIN];
             }
-            return NONE;
+            if (outcome == ROLLS || settings[FULL] < loadOfTop(column, 0)) {
+                return NONE;
+            }
+            return (playsUntilFull() + 1) * settings[COIN];
         }
     }
 
@@ -620,15 +614,6 @@ public final class ClawCranes {
         private int top(int column) {
             int height = heights[column];
             return height > 0 ? cells[column * COLUMN_PRIZES + height - 1] : NONE;
-        }
-
-        private boolean holds(int column, int prize) {
-            for (int height = 0; height < heights[column]; height++) {
-                if (prizeAt(column, height) == prize) {
-                    return true;
-                }
-            }
-            return false;
         }
 
         private int spotOf(int prize) {
