@@ -37,7 +37,6 @@ public final class ClawCranes {
     private final boolean[] saved = new boolean[SLOTS];
     private final History history = new History();
     private final Pad pad = new Pad();
-    private final Reader reader = new Reader(pad);
 
     public ClawCranes() {
         for (int slot = 0; slot < SLOTS; slot++) {
@@ -202,17 +201,17 @@ public final class ClawCranes {
     }
 
     public int fault() {
-        return reader.firstFault();
+        return pad.firstFault();
     }
 
     public int carryOut() {
-        if (reader.firstFault() != NONE) {
+        if (pad.firstFault() != NONE) {
             return BAD_TEXT;
         }
         history.note(crane);
-        reader.begin();
+        pad.begin();
         int done = 0;
-        while (done < PAD_LENGTH && reader.nextOrder() && carriedOrder() >= 0) {
+        while (done < PAD_LENGTH && pad.nextOrder() && carriedOrder() >= 0) {
             done++;
         }
         pad.length = 0;
@@ -220,11 +219,11 @@ public final class ClawCranes {
     }
 
     private int carriedOrder() {
-        switch (reader.letter) {
-            case 'c': return crane.takeCoins(reader.first);
-            case 'p': return crane.playForCredit(reader.first, reader.second);
-            case 'n': return crane.takePrize(reader.first, reader.second, reader.third);
-            case 'a': return crane.addToColumn(reader.first);
+        switch (pad.letter) {
+            case 'c': return crane.takeCoins(pad.first);
+            case 'p': return crane.playForCredit(pad.first, pad.second);
+            case 'n': return crane.takePrize(pad.first, pad.second, pad.third);
+            case 'a': return crane.addToColumn(pad.first);
             default: return BAD_TEXT;
         }
     }
@@ -516,9 +515,6 @@ public final class ClawCranes {
             kind[prize] = itsKind;
             weight[prize] = itsWeight;
             value[prize] = itsValue;
-            // an undone prize may have left something in its row
-            place[prize] = IN_STORE;
-            grips[prize] = 0;
             came++;
             return prize;
         }
@@ -740,10 +736,18 @@ public final class ClawCranes {
         }
     }
 
-    /** The text of orders. */
+    /** The text of orders; reading it from left to right stays at the first character that cannot stand there. */
     private static final class Pad {
+        private static final int END = 0;
+
         private final char[] signs = new char[PAD_LENGTH];
         private int length;
+        private int place;
+        private boolean faulty;
+        private int letter;
+        private int first;
+        private int second;
+        private int third;
 
         /** How many characters a number holds; 0, which no right number holds, stands for an error. */
         private static int signsIn(long characters) {
@@ -766,23 +770,6 @@ public final class ClawCranes {
                 length++;
             }
         }
-    }
-
-    /** Reads a pad from left to right; it stays at the first character that cannot stand there. */
-    private static final class Reader {
-        private static final char END = 0;
-
-        private final Pad pad;
-        private int place;
-        private boolean faulty;
-        private char letter;
-        private int first;
-        private int second;
-        private int third;
-
-        private Reader(Pad pad) {
-            this.pad = pad;
-        }
 
         private void begin() {
             place = 0;
@@ -792,7 +779,7 @@ public final class ClawCranes {
         private int firstFault() {
             begin();
             for (int orders = 0; orders <= PAD_LENGTH && nextOrder(); orders++) {
-                if (place >= pad.length) {
+                if (place >= length) {
                     return NONE;
                 }
             }
@@ -862,7 +849,7 @@ public final class ClawCranes {
         }
 
         private int digit() {
-            char sign = here();
+            int sign = here();
             if (faulty || !isDigit(sign)) {
                 faulty = true;
                 return 0;
@@ -871,11 +858,11 @@ public final class ClawCranes {
             return sign - '0';
         }
 
-        private static boolean isDigit(char sign) {
+        private static boolean isDigit(int sign) {
             return sign >= '0' && sign <= '9';
         }
 
-        private void expect(char sign) {
+        private void expect(int sign) {
             if (faulty || here() != sign) {
                 faulty = true;
             } else {
@@ -883,8 +870,8 @@ public final class ClawCranes {
             }
         }
 
-        private char here() {
-            return place >= 0 && place < pad.length ? pad.signs[place] : END;
+        private int here() {
+            return place >= 0 && place < length ? signs[place] : END;
         }
     }
 }

@@ -268,6 +268,9 @@ public final class ChangesTest {
         rolls(new int[] {0, 0, 3, 4, 3, 0, 0, 0}, 3, 3);
         rolls(new int[] {2, 0, 0, 0, 0, 0, 0, 0}, 0, 1);
         rolls(new int[] {2, 1, 0, 0, 0, 0, 0, 0}, 0, 0);
+        rolls(new int[] {0, 2, 0, 0, 0, 0, 0, 0}, 1, 0);
+        rolls(new int[] {0, 0, 0, 0, 0, 0, 2, 0}, 6, 5);
+        rolls(new int[] {0, 0, 0, 0, 0, 1, 3, 0}, 6, 7);
         rolls(new int[] {0, 0, 0, 0, 0, 0, 0, 4}, 7, 6);
         rolls(new int[] {0, 0, 0, 0, 0, 0, 3, 4}, 7, 7);
     }

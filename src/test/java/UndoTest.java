@@ -3,6 +3,7 @@ public final class UndoTest {
     public static void main(String[] args) {
         undo();
         undoBringsAllBack();
+        undoOfEachChange();
         historyOfSix();
         errorsRecordNothing();
         equalStatesAreRecorded();
@@ -90,6 +91,29 @@ public final class UndoTest {
         Check.due("undone: a play with a filling", everything(x), set);
         x.undo();
         Check.due("undone: set", everything(x), before);
+    }
+
+    private static void undoOfEachChange() {
+        ClawCranes x = played();
+        x.prize(0, 9, 9);
+        x.save(0);
+        for (int change = 0; change < 7; change++) {
+            x.coins(1);
+            long before = everything(x);
+            switch (change) {
+                case 0: x.prize(1, 2, 3); break;
+                case 1: x.add(6); break;
+                case 2: x.coins(3); break;
+                case 3: x.set(ClawCranes.SLIP, 9); break;
+                case 4: x.play(2, 1); break;
+                case 5: Check.type(x, "nx1=1;a4;c9;p4"); Check.due("carryOut()", x.carryOut(), 4); break;
+                default: x.restore(0);
+            }
+            Check.holds("something changes, " + change, everything(x) != before);
+            x.undo();
+            Check.due("undone: change " + change, everything(x), before);
+        }
+        Check.due("the store is as before", x.add(0), 2);
     }
 
     private static void historyOfSix() {

@@ -116,6 +116,10 @@ public final class WhatIfTest {
         Check.due("still weak", x.bestColumn(), 6);
         x.set(ClawCranes.DUE, 1);
         Check.due("the full grip", x.bestColumn(), 1);
+        x = new ClawCranes();
+        x.prize(1, 12, 1);
+        x.add(0);
+        Check.due("column 0, of the least value", x.bestColumn(), 0);
     }
 
     private static void costsErrors() {

@@ -132,6 +132,20 @@ public final class WhatThereIsTest {
         Check.due("the cheap one is won", x.play(0, 0), 14);
         Check.due("byValue(5)", x.byValue(5), ClawCranes.NO_SUCH);
         Check.due("byValue(4)", x.byValue(4), 0);
+        x = full();
+        for (int rank = 0; rank < 24; rank++) {
+            Check.due("24 in the pit: byValue(" + rank + ")", x.byValue(rank), 23 - rank);
+        }
+        Check.due("byValue(24)", x.byValue(24), ClawCranes.NO_SUCH);
+    }
+
+    private static ClawCranes full() {
+        ClawCranes x = new ClawCranes();
+        for (int i = 0; i < 24; i++) {
+            x.prize(0, 10 + i, 20 + i);
+            x.add(i / 4);
+        }
+        return x;
     }
 
     private static void lighter() {
@@ -153,6 +167,8 @@ public final class WhatThereIsTest {
         x.coins(9);
         x.play(1, 0);
         Check.due("without the one that was won", x.lighter(60), 2);
+        Check.due("24 in the pit", full().lighter(99), 24);
+        Check.due("24 in the pit", full().lighter(32), 23);
     }
 
     private static void count() {
