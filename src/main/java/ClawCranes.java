@@ -363,7 +363,7 @@ public final class ClawCranes {
             return credit < settings[COIN] ? NOT_POSSIBLE : pull(column, aim);
         }
 
-        /** A play of which the column and the aim have been tested, and the credit if it matters. */
+        /** A play whose errors have been ruled out. */
         private int pull(int column, int aim) {
             int outcome = outcome(column, aim);
             int prize = pit.top(column);
