@@ -2,14 +2,20 @@
 final class Check {
     private static int wrong = 0;
     private static int asked = 0;
+    private static String sentence = "";
 
     private Check() { }
+
+    /** The part of the document, and the words in it, by which the answers that follow are due; see QuotesTest. */
+    static void sentence(String part, String... words) {
+        sentence = part + ": " + String.join("; ", words) + ": ";
+    }
 
     static void due(String call, long got, long want) {
         asked++;
         if (got != want) {
             wrong++;
-            System.out.println(call + " answered " + got + ", due is " + want);
+            System.out.println(sentence + call + " answered " + got + ", due is " + want);
         }
     }
 
@@ -17,7 +23,7 @@ final class Check {
         asked++;
         if (!right) {
             wrong++;
-            System.out.println("does not hold: " + what);
+            System.out.println(sentence + "does not hold: " + what);
         }
     }
 
@@ -25,21 +31,6 @@ final class Check {
         System.out.println(asked + " answers, " + wrong + " not as due");
         if (wrong != 0 || asked == 0) {
             System.exit(1);
-        }
-    }
-
-    /** Up to eight characters as the number that put() takes. */
-    static long number(String characters) {
-        long number = 0;
-        for (int i = 0; i < characters.length(); i++) {
-            number = number << 8 | characters.charAt(i);
-        }
-        return number;
-    }
-
-    static void type(ClawCranes crane, String text) {
-        for (int i = 0; i < text.length(); i += 8) {
-            crane.put(number(text.substring(i, Math.min(i + 8, text.length()))));
         }
     }
 }

@@ -3,7 +3,8 @@ import java.util.Random;
 /** Long runs of drawn calls, answered as the model answers them; no call throws, whatever it is given. */
 public final class ModelTest {
     private static final int RUNS = 1500;
-    private static final int CALLS = 500;
+    /** A call here may be two, and an object is promised to be good for 512. */
+    private static final int CALLS = 470;
     private static final String SIGNS = "cpna/=;xb0123456789";
 
     private final Random random;
@@ -22,6 +23,7 @@ public final class ModelTest {
             for (int call = 0; call < CALLS; call++) {
                 test.call("seed " + seed + " call " + call + " ");
             }
+            test.last("seed " + seed + " last ");
         }
         Check.end();
     }
@@ -57,8 +59,12 @@ public final class ModelTest {
         } else {
             keep(where, way);
         }
-        Check.due(where + "pit", crane.count(9), model.count(9));
-        Check.due(where + "history", crane.count(19), model.count(19));
+    }
+
+    private void last(String where) {
+        for (int what = 0; what < 20; what++) {
+            Check.due(where + "count " + what, crane.count(what), model.count(what));
+        }
     }
 
     private void change(String where, int way) {
@@ -151,7 +157,7 @@ public final class ModelTest {
             case 1:
             case 2: {
                 boolean sound = model.fault() == -6;
-                long drawn = Check.number(order());
+                long drawn = Cranes.number(order());
                 if (sound) {
                     Check.due(where + "put ;", crane.put(';'), model.put(';'));
                 }
