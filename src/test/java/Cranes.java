@@ -77,6 +77,12 @@ final class Cranes {
         x.add(1);
     }
 
+    static ClawCranes live() {
+        ClawCranes x = new ClawCranes();
+        live(x);
+        return x;
+    }
+
     static void undoAll(ClawCranes x) {
         for (int left = x.count(19); left > 0; left--) {
             x.undo();

@@ -32,9 +32,8 @@ public final class UndoTest {
     }
 
     private static void isAChange(Consumer<ClawCranes> change) {
-        ClawCranes x = new ClawCranes();
-        Cranes.live(x);
-        String before = Traces.now(x);
+        String before = Traces.now(Cranes.live());
+        ClawCranes x = Cranes.live();
         Check.due("before it", x.count(19), 5);
         change.accept(x);
         Check.due("it is recorded, once", x.count(19), 6);
@@ -317,8 +316,7 @@ public final class UndoTest {
     private static void saves() {
         Check.sentence("Promise 23", SAVES, "Returns how many prizes there have been");
         Check.due("a new object", new ClawCranes().save(0), 0);
-        ClawCranes x = new ClawCranes();
-        Cranes.live(x);
+        ClawCranes x = Cranes.live();
         String saved = Traces.now(x);
         Check.due("of 8 prizes some were won", x.save(1), 8);
         x.play(1, 0);
@@ -362,19 +360,20 @@ public final class UndoTest {
 
     private static void restores() {
         Check.sentence("Promise 24", "Restores what was saved last in a slot, which keeps it");
-        ClawCranes x = new ClawCranes();
-        Cranes.live(x);
-        x.save(1);
-        String saved = Traces.now(x);
-        for (int i = 0; i < 3; i++) {
-            x.restore(0);
-            x.coins(9);
-            x.prize(0, 60, 1);
-            x.play(0, 0);
-            x.set(ClawCranes.FULL, 1);
-            x.add(7);
-            x.restore(1);
-            Check.holds("as it was saved, " + i, saved.equals(Traces.now(x)));
+        String saved = Traces.now(Cranes.live());
+        for (int times = 1; times <= 3; times++) {
+            ClawCranes x = Cranes.live();
+            x.save(1);
+            for (int i = 0; i < times; i++) {
+                x.restore(0);
+                x.coins(9);
+                x.prize(0, 60, 1);
+                x.play(0, 0);
+                x.set(ClawCranes.FULL, 1);
+                x.add(7);
+                x.restore(1);
+            }
+            Check.holds("as it was saved, restored " + times + " times", saved.equals(Traces.now(x)));
         }
     }
 
